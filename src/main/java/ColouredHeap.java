@@ -49,7 +49,7 @@ public final class ColouredHeap {
     /** A page in use has at least one word used, so 0 means that the page is free. */
     private final int[] usedWords = new int[PAGES];
     private final boolean[] candidate = new boolean[PAGES];
-    private final boolean[] relocated = new boolean[PAGES];
+    private final boolean[] inRelocationSet = new boolean[PAGES];
     private int allocatingPage = NONE;
 
     private int currentPhase = IDLE;
@@ -252,7 +252,7 @@ public final class ColouredHeap {
         if (page == allocatingPage) {
             return 2;
         }
-        return relocated[page] ? 4 : 1;
+        return inRelocationSet[page] ? 4 : 1;
     }
 
     private int markedObjects(int page) {
@@ -313,7 +313,7 @@ public final class ColouredHeap {
         }
         if (currentPhase == MARKING) {
             mark(place);
-        } else if (currentPhase == RELOCATING && !forwarded && relocated[pageOf(place)]) {
+        } else if (currentPhase == RELOCATING && !forwarded && inRelocationSet[pageOf(place)]) {
             place = moveAway(place);
         }
         slotPlace[slot] = place;
@@ -335,12 +335,12 @@ public final class ColouredHeap {
         }
     }
 
-    /** The object's new place; its old one when there is no room, and then its page leaves the set. */
+    /** The new place, or the old one when there is no room: then the page leaves the set. */
     private int moveAway(int from) {
         int fields = objectFields[from];
         int to = takeRoom(fields + 1);
         if (to == NONE) {
-            relocated[pageOf(from)] = false;
+            inRelocationSet[pageOf(from)] = false;
             return from;
         }
         objectValue[to] = objectValue[from];
@@ -400,7 +400,7 @@ public final class ColouredHeap {
         if (live == 0) {
             becomeFree(page);
         } else if (live <= threshold) {
-            relocated[page] = true;
+            inRelocationSet[page] = true;
         }
     }
 
@@ -418,11 +418,11 @@ public final class ColouredHeap {
     private void becomeFree(int page) {
         usedWords[page] = 0;
         candidate[page] = false;
-        relocated[page] = false;
+        inRelocationSet[page] = false;
     }
 
     private void relocateNext() {
-        int page = leastRelocatedPage();
+        int page = leastPageOfSet();
         if (page == NONE) {
             currentPhase = IDLE;
             return;
@@ -431,14 +431,14 @@ public final class ColouredHeap {
         if (place != NONE) {
             moveAway(place);
         }
-        if (relocated[page] && leastMarkedPlace(page) == NONE) {
+        if (inRelocationSet[page] && leastMarkedPlace(page) == NONE) {
             becomeFree(page);
         }
     }
 
-    private int leastRelocatedPage() {
+    private int leastPageOfSet() {
         for (int page = 0; page < PAGES; page++) {
-            if (relocated[page]) {
+            if (inRelocationSet[page]) {
                 return page;
             }
         }
