@@ -369,7 +369,7 @@ public final class ModelTest {
         }
 
         void go() {
-            while (callCount <= CALLS - MOST_CALLS_AT_ONCE) {
+            while (callCount < CALLS) {
                 int before = wrong;
                 nextCalls();
                 if (wrong > before) {
@@ -438,7 +438,9 @@ public final class ModelTest {
         private void nextCalls() {
             int kind = numbers.below(100);
             boolean badColoursBehind = model.phase != 1 && model.cycles > 0;
-            if (badColoursBehind && kind < walkWeight) {
+            if (callCount > CALLS - MOST_CALLS_AT_ONCE) {
+                oneCall();
+            } else if (badColoursBehind && kind < walkWeight) {
                 walk();
             } else if (kind < growWeight) {
                 grow();
